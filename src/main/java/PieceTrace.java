@@ -326,6 +326,7 @@ public final class PieceTrace {
         kinds[piece] = kind;
         weights[piece] = weight;
         lengths[piece] = length;
+        states[piece] = LIVE;
         sources[piece] = source;
         seconds[piece] = NONE;
         rollCounts[piece] = source == NONE ? 0 : rollCounts[source];

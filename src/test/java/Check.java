@@ -9,6 +9,10 @@ final class Check {
     static final Class<?> RANGE = IllegalArgumentException.class;
     static final Class<?> MEANING = UnsupportedOperationException.class;
 
+    /** Of mixed(). */
+    static final int[] NOT_IN_MIXED = {-1, 5, 40, Integer.MIN_VALUE, Integer.MAX_VALUE};
+    static final int[] NOT_FREE_IN_MIXED = {0, 2, 3};
+
     private static int looked = 0;
     private static int wrong = 0;
 
@@ -101,6 +105,13 @@ final class Check {
         x.melt(70, 7); // 4: live
         x.defect(1, 5);
         return x;
+    }
+
+    /** All that at tells of a piece. */
+    static void pieceIs(PieceTrace x, int piece, int... due) {
+        for (int what = 0; what <= 6; what++) {
+            due("at(" + piece + ", " + what + ")", x.at(piece, what), due[what]);
+        }
     }
 
     static void weightsAndLengths(String what, PieceTrace x, int piece, int weight, int length) {

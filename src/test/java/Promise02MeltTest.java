@@ -11,12 +11,8 @@ public final class Promise02MeltTest {
         PieceTrace x = new PieceTrace();
         Check.due("first melt", x.melt(1000, 300), 0);
         Check.due("second melt", x.melt(999, 100), 1);
-        Check.weightsAndLengths("first melt", x, 0, 1000, 300);
-        Check.weightsAndLengths("second melt", x, 1, 999, 100);
-        int[] rest = {0, 0, -1, -1, 0};
-        for (int i = 0; i < rest.length; i++) {
-            Check.due("a melt's at " + (i + 2), x.at(1, i + 2), rest[i]);
-        }
+        Check.pieceIs(x, 0, 1000, 300, 0, 0, -1, -1, 0);
+        Check.pieceIs(x, 1, 999, 100, 0, 0, -1, -1, 0);
     }
 
     private static void edges() {

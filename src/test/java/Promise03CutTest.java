@@ -12,15 +12,9 @@ public final class Promise03CutTest {
         PieceTrace x = Check.filledTo(1);
         Check.due("melt", x.melt(1000, 300), 1);
         Check.due("cut", x.cut(1, 100), 2);
-        Check.weightsAndLengths("first part", x, 2, 333, 100);
-        Check.weightsAndLengths("second part", x, 3, 667, 200);
-        Check.due("the whole is used", x.at(1, 2), 1);
-        for (int part = 2; part <= 3; part++) {
-            int[] rest = {0, 0, 1, -1, 0};
-            for (int i = 0; i < rest.length; i++) {
-                Check.due("a part's at " + (i + 2), x.at(part, i + 2), rest[i]);
-            }
-        }
+        Check.pieceIs(x, 1, 1000, 300, 1, 0, -1, -1, 0);
+        Check.pieceIs(x, 2, 333, 100, 0, 0, 1, -1, 0);
+        Check.pieceIs(x, 3, 667, 200, 0, 0, 1, -1, 0);
         Check.due("the next number", x.melt(1, 1), 4);
     }
 
@@ -48,13 +42,12 @@ public final class Promise03CutTest {
     }
 
     private static void refusals() {
-        int[] none = {-1, 5, 40, Integer.MIN_VALUE, Integer.MAX_VALUE};
-        for (int piece : none) {
+        for (int piece : Check.NOT_IN_MIXED) {
             Check.refused("no piece " + piece, Check.INDEX, Check::mixed, x -> x.cut(piece, 0));
         }
-        Check.refused("used", Check.TURN, Check::mixed, x -> x.cut(0, 0));
-        Check.refused("scrap", Check.TURN, Check::mixed, x -> x.cut(2, 0));
-        Check.refused("held", Check.TURN, Check::mixed, x -> x.cut(3, 0));
+        for (int piece : Check.NOT_FREE_IN_MIXED) {
+            Check.refused("not free", Check.TURN, Check::mixed, x -> x.cut(piece, 0));
+        }
         int[] places = {0, -1, 7, 8, Integer.MIN_VALUE, Integer.MAX_VALUE};
         for (int place : places) {
             Check.refused("place " + place, Check.RANGE, Check::mixed, x -> x.cut(4, place));

@@ -14,12 +14,9 @@ public final class Promise04WeldTest {
         x.melt(667, 200);
         x.melt(999, 100);
         Check.due("weld", x.weld(1, 0), 2);
-        Check.weightsAndLengths("weld", x, 2, 1666, 300);
-        Check.due("first is used", x.at(1, 2), 1);
-        Check.due("second is used", x.at(0, 2), 1);
-        Check.due("of the first", x.at(2, 4), 1);
-        Check.due("and the second", x.at(2, 5), 0);
-        Check.due("live", x.at(2, 2), 0);
+        Check.pieceIs(x, 0, 667, 200, 1, 0, -1, -1, 0);
+        Check.pieceIs(x, 1, 999, 100, 1, 0, -1, -1, 0);
+        Check.pieceIs(x, 2, 1666, 300, 0, 0, 1, 0, 0);
     }
 
     private static void rollsAreTheMost() {
@@ -41,14 +38,13 @@ public final class Promise04WeldTest {
     }
 
     private static void refusals() {
-        int[] none = {-1, 5, 40, Integer.MIN_VALUE, Integer.MAX_VALUE};
-        for (int piece : none) {
+        for (int piece : Check.NOT_IN_MIXED) {
             Check.refused("no second " + piece, Check.INDEX, Check::mixed, x -> x.weld(0, piece));
             Check.refused("no first " + piece, Check.INDEX, Check::mixed, x -> x.weld(piece, 0));
         }
         Check.refused("one", Check.INDEX, Check::mixed, x -> x.weld(1, 1));
         Check.refused("one that is used", Check.INDEX, Check::mixed, x -> x.weld(0, 0));
-        for (int piece : new int[] {0, 2, 3}) {
+        for (int piece : Check.NOT_FREE_IN_MIXED) {
             Check.refused("not free, second", Check.TURN, Check::mixed, x -> x.weld(1, piece));
             Check.refused("not free, first", Check.TURN, Check::mixed, x -> x.weld(piece, 1));
         }

@@ -13,18 +13,12 @@ public final class Promise05RollTest {
         PieceTrace x = new PieceTrace();
         x.melt(1666, 301);
         Check.due("roll", x.roll(0, 7, 3), 1);
-        Check.weightsAndLengths("rounded down", x, 1, 1666, 702);
-        int[] rest = {0, 0, 0, -1, 1};
-        for (int i = 0; i < rest.length; i++) {
-            Check.due("a rolled one's at " + (i + 2), x.at(1, i + 2), rest[i]);
-        }
-        Check.due("the one ahead is used", x.at(0, 2), 1);
+        Check.pieceIs(x, 0, 1666, 301, 1, 0, -1, -1, 0);
+        Check.pieceIs(x, 1, 1666, 702, 0, 0, 0, -1, 1);
         x.roll(1, 1, 20);
-        Check.weightsAndLengths("shorter", x, 2, 1666, 35);
-        Check.due("two rolls", x.at(2, 6), 2);
+        Check.pieceIs(x, 2, 1666, 35, 0, 0, 1, -1, 2);
         x.roll(2, 20, 20);
-        Check.weightsAndLengths("as it is", x, 3, 1666, 35);
-        Check.due("three rolls", x.at(3, 6), 3);
+        Check.pieceIs(x, 3, 1666, 35, 0, 0, 2, -1, 3);
     }
 
     private static void edges() {
@@ -39,11 +33,10 @@ public final class Promise05RollTest {
     }
 
     private static void refusals() {
-        int[] none = {-1, 5, 40, Integer.MIN_VALUE, Integer.MAX_VALUE};
-        for (int piece : none) {
+        for (int piece : Check.NOT_IN_MIXED) {
             Check.refused("no piece " + piece, Check.INDEX, Check::mixed, x -> x.roll(piece, 0, 0));
         }
-        for (int piece : new int[] {0, 2, 3}) {
+        for (int piece : Check.NOT_FREE_IN_MIXED) {
             Check.refused("not free", Check.TURN, Check::mixed, x -> x.roll(piece, 0, 0));
         }
         int[] ratios = {0, -1, 21, Integer.MIN_VALUE, Integer.MAX_VALUE};

@@ -16,10 +16,7 @@ public final class Promise06SlitTest {
             int n = due.length;
             Check.due("slit", x.slit(1, n), 2);
             for (int i = 0; i < n; i++) {
-                Check.weightsAndLengths("slit " + i + " of " + n, x, 2 + i, due[i], 700);
-                Check.due("of the whole", x.at(2 + i, 4), 1);
-                Check.due("no second one", x.at(2 + i, 5), -1);
-                Check.due("live", x.at(2 + i, 2), 0);
+                Check.pieceIs(x, 2 + i, due[i], 700, 0, 0, 1, -1, 0);
             }
             Check.due("the whole is used", x.at(1, 2), 1);
             Check.due("the next number", x.melt(1, 1), 2 + n);
@@ -40,11 +37,10 @@ public final class Promise06SlitTest {
     }
 
     private static void refusals() {
-        int[] none = {-1, 5, 40, Integer.MIN_VALUE, Integer.MAX_VALUE};
-        for (int piece : none) {
+        for (int piece : Check.NOT_IN_MIXED) {
             Check.refused("no piece " + piece, Check.INDEX, Check::mixed, x -> x.slit(piece, 0));
         }
-        for (int piece : new int[] {0, 2, 3}) {
+        for (int piece : Check.NOT_FREE_IN_MIXED) {
             Check.refused("not free", Check.TURN, Check::mixed, x -> x.slit(piece, 0));
         }
         int[] numbers = {1, 0, -1, 5, Integer.MIN_VALUE, Integer.MAX_VALUE};

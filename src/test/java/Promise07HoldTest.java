@@ -24,8 +24,7 @@ public final class Promise07HoldTest {
     }
 
     private static void refusals() {
-        int[] none = {-1, 5, 40, Integer.MIN_VALUE, Integer.MAX_VALUE};
-        for (int piece : none) {
+        for (int piece : Check.NOT_IN_MIXED) {
             Check.refused("no piece " + piece, Check.INDEX, Check::mixed, x -> x.hold(piece, true));
             Check.refused("no piece " + piece, Check.INDEX, Check::mixed, x -> x.hold(piece, false));
         }

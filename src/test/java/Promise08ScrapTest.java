@@ -26,11 +26,10 @@ public final class Promise08ScrapTest {
     }
 
     private static void refusals() {
-        int[] none = {-1, 5, 40, Integer.MIN_VALUE, Integer.MAX_VALUE};
-        for (int piece : none) {
+        for (int piece : Check.NOT_IN_MIXED) {
             Check.refused("no piece " + piece, Check.INDEX, Check::mixed, x -> x.scrap(piece));
         }
-        for (int piece : new int[] {0, 2, 3}) {
+        for (int piece : Check.NOT_FREE_IN_MIXED) {
             Check.refused("not free", Check.TURN, Check::mixed, x -> x.scrap(piece));
         }
     }

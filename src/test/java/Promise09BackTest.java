@@ -11,11 +11,7 @@ public final class Promise09BackTest {
     private static void ordinary() {
         PieceTrace x = heapOf(556);
         Check.due("back", x.back(33, 50), 1);
-        Check.weightsAndLengths("rounded down", x, 1, 183, 50);
-        int[] rest = {0, 0, -1, -1, 0};
-        for (int i = 0; i < rest.length; i++) {
-            Check.due("its at " + (i + 2), x.at(1, i + 2), rest[i]);
-        }
+        Check.pieceIs(x, 1, 183, 50, 0, 0, -1, -1, 0);
         Check.due("the heap is less", x.told(1), 373);
         Check.due("it is live", x.told(0), 183);
         Check.due("no melt of its own", x.told(2), 556);

@@ -13,9 +13,7 @@ public final class Promise10AtTest {
             {250, 9, 0, 0, -1, -1, 0}, // 7: from the heap
         };
         for (int piece = 0; piece < due.length; piece++) {
-            for (int what = 0; what <= 6; what++) {
-                Check.due("at(" + piece + ", " + what + ")", x.at(piece, what), due[piece][what]);
-            }
+            Check.pieceIs(x, piece, due[piece]);
         }
         refusals();
         Check.end();

@@ -92,8 +92,7 @@ public final class Promise11OriginTest {
     }
 
     private static void refusals() {
-        int[] none = {-1, 5, 40, Integer.MIN_VALUE, Integer.MAX_VALUE};
-        for (int piece : none) {
+        for (int piece : Check.NOT_IN_MIXED) {
             Check.refused("no piece " + piece, Check.INDEX, Check::mixed, x -> x.origin(piece, -1, 0));
         }
         int[] parts = {-1, 3, Integer.MIN_VALUE, Integer.MAX_VALUE};

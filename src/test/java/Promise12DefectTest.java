@@ -48,8 +48,7 @@ public final class Promise12DefectTest {
     }
 
     private static void refusals() {
-        int[] none = {-1, 5, 40, Integer.MIN_VALUE, Integer.MAX_VALUE};
-        for (int piece : none) {
+        for (int piece : Check.NOT_IN_MIXED) {
             Check.refused("no piece " + piece, Check.INDEX, Check::mixed, x -> x.defect(piece, -1));
         }
         int[] places = {-1, 7, 8, Integer.MIN_VALUE, Integer.MAX_VALUE};

@@ -185,8 +185,7 @@ public final class Promise13HasTest {
         for (int defect : none) {
             Check.refused("no defect " + defect, Check.INDEX, Check::mixed, x -> x.has(defect, 0, 0));
         }
-        int[] pieces = {-1, 5, 40, Integer.MIN_VALUE, Integer.MAX_VALUE};
-        for (int piece : pieces) {
+        for (int piece : Check.NOT_IN_MIXED) {
             Check.refused("no piece " + piece, Check.INDEX, Check::mixed, x -> x.has(0, piece, 0));
         }
         int[] parts = {-1, 2, Integer.MIN_VALUE, Integer.MAX_VALUE};

@@ -32,6 +32,8 @@ public final class Promise14RecallTest {
         recalled(x, 0, 39);
         x.scrap(39);
         recalled(x, 0);
+        x.defect(0, 999);
+        recalled(x, 1, 0);
         Check.due("k at its largest", x.recall(0, Integer.MAX_VALUE), -1);
     }
 
