@@ -11,7 +11,15 @@ final class Check {
 
     /** Of mixed(). */
     static final int[] NOT_IN_MIXED = {-1, 5, 40, Integer.MIN_VALUE, Integer.MAX_VALUE};
-    static final int[] NOT_FREE_IN_MIXED = {0, 2, 3};
+    /** Of mixed() and fullMixed(). */
+    static final int USED = 0;
+    static final int SCRAP = 2;
+    static final int HELD = 3;
+    static final int FREE = 4;
+    static final int FREE_LENGTH = 7;
+    static final int[] NOT_FREE = {USED, SCRAP, HELD};
+    /** Of an object that is full. */
+    static final int[] NOT_IN_FULL = {-1, 40, 41, Integer.MIN_VALUE, Integer.MAX_VALUE};
 
     private static int looked = 0;
     private static int wrong = 0;
@@ -41,21 +49,42 @@ final class Check {
 
     /**
      * A call on an object fresh from its maker throws just this class, and leaves the object as
-     * one that never had the call. Two objects, each looked at once, stay below 512 calls.
+     * one that never had the call.
      */
     static void refused(String what, Class<?> with, Supplier<PieceTrace> maker, Consumer<PieceTrace> call) {
-        PieceTrace asked = maker.get();
-        String got = answer(asked, x -> {
-            call.accept(x);
-            return 0;
-        });
-        due(what, got, "throws." + with.getSimpleName());
-        due(what + ": state after it", state(asked), state(maker.get()));
+        due(what, asked(maker.get(), call), "throws." + with.getSimpleName());
+        Supplier<PieceTrace> askedMaker = () -> {
+            PieceTrace x = maker.get();
+            asked(x, call);
+            return x;
+        };
+        due(what + ": state after it", state(askedMaker), state(maker));
     }
 
-    /** All that an object tells, as a text. */
-    static String state(PieceTrace x) {
+    private static String asked(PieceTrace x, Consumer<PieceTrace> call) {
+        return answer(x, y -> {
+            call.accept(y);
+            return 0;
+        });
+    }
+
+    /** All that an object tells, as a text. Each look is at an object of its own, to stay below 512 calls. */
+    static String state(Supplier<PieceTrace> maker) {
         StringBuilder all = new StringBuilder();
+        int pieces = lookAtPieces(maker.get(), all);
+        lookAtOrigins(maker.get(), pieces, all);
+        int defects = 0;
+        while (lookAtDefect(maker.get(), defects, pieces, all)) {
+            defects++;
+        }
+        return all.toString();
+    }
+
+    private static int lookAtPieces(PieceTrace x, StringBuilder all) {
+        all.append("told");
+        for (int what = 0; what <= 2; what++) {
+            all.append(' ').append(x.told(what));
+        }
         int pieces = 0;
         while (!answer(x, seenAt(pieces, 0)).startsWith("throws.")) {
             all.append("\npiece ").append(pieces);
@@ -64,25 +93,39 @@ final class Check {
             }
             pieces++;
         }
-        all.append("\ntold");
-        for (int what = 0; what <= 2; what++) {
-            all.append(' ').append(x.told(what));
-        }
-        for (int d = 0; !answer(x, recalled(d)).startsWith("throws."); d++) {
-            all.append("\ndefect ").append(d);
-            for (int piece = 0; piece < pieces; piece++) {
-                all.append(' ').append(x.has(d, piece, 0)).append('/').append(x.has(d, piece, 1));
+        return pieces;
+    }
+
+    /** The first and the last place of each piece. */
+    private static void lookAtOrigins(PieceTrace x, int pieces, StringBuilder all) {
+        for (int piece = 0; piece < pieces; piece++) {
+            all.append("\norigins of ").append(piece);
+            int last = x.at(piece, 1) - 1;
+            for (int part = 0; part <= 2; part++) {
+                all.append(' ').append(x.origin(piece, 0, part)).append(' ').append(x.origin(piece, last, part));
             }
         }
-        return all.toString();
+    }
+
+    private static boolean lookAtDefect(PieceTrace x, int defect, int pieces, StringBuilder all) {
+        String first = answer(x, y -> y.recall(defect, 0));
+        if (first.startsWith("throws.")) {
+            return false;
+        }
+        all.append("\ndefect ").append(defect).append(": ").append(first);
+        for (int piece = 0; piece < pieces; piece++) {
+            all.append(' ').append(x.has(defect, piece, 0)).append('/').append(x.has(defect, piece, 1));
+        }
+        return true;
     }
 
     private static ToLongFunction<PieceTrace> seenAt(int piece, int what) {
         return x -> x.at(piece, what);
     }
 
-    private static ToLongFunction<PieceTrace> recalled(int defect) {
-        return x -> x.recall(defect, 0);
+    /** The numbers next to a range on both sides, and the farthest ones. */
+    static int[] outside(int least, int most) {
+        return new int[] {least - 1, most + 1, Integer.MIN_VALUE, Integer.MAX_VALUE};
     }
 
     /** One melt of a kilogram and a metre after the other, up to the number of pieces. */
@@ -104,6 +147,22 @@ final class Check {
         x.hold(3, true);
         x.melt(70, 7); // 4: live
         x.defect(1, 5);
+        return x;
+    }
+
+    /** The same, and then melts up to the 40th piece. */
+    static PieceTrace fullMixed() {
+        PieceTrace x = mixed();
+        for (int i = 5; i < 40; i++) {
+            x.melt(1000, 1000);
+        }
+        return x;
+    }
+
+    /** One piece of this weight and length. */
+    static PieceTrace oneMelt(int weight, int length) {
+        PieceTrace x = new PieceTrace();
+        x.melt(weight, length);
         return x;
     }
 

@@ -1,13 +1,22 @@
 /** Promise 9: back. */
 public final class Promise09BackTest {
+    private static final int MOST = 1_000_000;
+
     public static void main(String[] args) {
         ordinary();
-        edges();
+        shareRoundedDown();
+        leastAndMostPercent();
+        leastAndMostLength();
+        aGram();
+        lessThanAGram();
+        anEmptyHeap();
         largeHeap();
-        refusals();
+        roomForOne();
+        rangeAheadOfMeaning();
         Check.end();
     }
 
+    /** The share "leaves it and is a melt of a told length". */
     private static void ordinary() {
         PieceTrace x = heapOf(556);
         Check.due("back", x.back(33, 50), 1);
@@ -18,25 +27,72 @@ public final class Promise09BackTest {
         x.defect(1, 7);
         Check.originIs(x, 1, 7, 1, 7, 1);
         Check.hasAt(x, 0, 1, 7, 1);
+        Check.hasNot(x, 0, 0);
     }
 
-    private static void edges() {
-        PieceTrace x = heapOf(100);
-        x.back(1, 1);
-        Check.weightsAndLengths("a gram", x, 1, 1, 1);
-        x.back(100, 1_000_000);
-        Check.weightsAndLengths("all of it", x, 2, 99, 1_000_000);
+    /** "percent, rounded down". */
+    private static void shareRoundedDown() {
+        int[][] due = {{101, 1, 1}, {199, 1, 1}, {200, 1, 2}, {3, 50, 1}, {3, 66, 1}, {3, 67, 2}, {3, 99, 2}};
+        for (int[] row : due) {
+            PieceTrace x = heapOf(row[0]);
+            x.back(row[1], 9);
+            Check.weightsAndLengths(row[1] + " percent of " + row[0], x, 1, row[2], 9);
+            Check.due("the rest", x.told(1), row[0] - row[2]);
+        }
+    }
+
+    /** "a share of the heap (1 .. 100 percent". */
+    private static void leastAndMostPercent() {
+        PieceTrace x = heapOf(5000);
+        Check.due("1 percent", x.back(1, 9), 1);
+        Check.weightsAndLengths("1 percent", x, 1, 50, 9);
+        Check.due("100 percent", x.back(100, 9), 2);
+        Check.weightsAndLengths("100 percent", x, 2, 4950, 9);
         Check.due("an empty heap", x.told(1), 0);
-        PieceTrace y = Check.filledTo(39);
-        y.scrap(0);
-        Check.due("the 40th piece", y.back(50, 5), 39);
+        for (int percent : Check.outside(1, 100)) {
+            Check.refused("percent " + percent, Check.RANGE, Check::mixed, y -> y.back(percent, 9));
+        }
+    }
+
+    /** "length (1 .. 1,000,000)". */
+    private static void leastAndMostLength() {
+        PieceTrace x = heapOf(100);
+        Check.due("a millimetre", x.back(50, 1), 1);
+        Check.weightsAndLengths("a millimetre", x, 1, 50, 1);
+        Check.due("a kilometre", x.back(50, MOST), 2);
+        Check.weightsAndLengths("a kilometre", x, 2, 25, MOST);
+        for (int length : Check.outside(1, MOST)) {
+            Check.refused("length " + length, Check.RANGE, Check::mixed, y -> y.back(50, length));
+        }
+    }
+
+    /** "1 gram or more". */
+    private static void aGram() {
+        int[][] due = {{100, 1}, {2, 50}, {1, 100}, {51, 2}};
+        for (int[] row : due) {
+            PieceTrace x = heapOf(row[0]);
+            Check.due("back", x.back(row[1], 1), 1);
+            Check.weightsAndLengths(row[1] + " percent of " + row[0], x, 1, 1, 1);
+        }
+    }
+
+    /** "meaning: less than a gram". */
+    private static void lessThanAGram() {
+        Check.refused("1 percent of 99", Check.MEANING, () -> heapOf(99), x -> x.back(1, 1));
+        Check.refused("99 percent of 1", Check.MEANING, () -> heapOf(1), x -> x.back(99, 1));
+        Check.refused("49 percent of 2", Check.MEANING, () -> heapOf(2), x -> x.back(49, 1));
+    }
+
+    private static void anEmptyHeap() {
+        Check.refused("never filled", Check.MEANING, () -> Check.filledTo(1), x -> x.back(100, 1));
+        Check.refused("emptied", Check.MEANING, Promise09BackTest::emptied, x -> x.back(100, 1));
     }
 
     /** The heap times a percentage is far above an int, and a melt from it above 1,000,000. */
     private static void largeHeap() {
         PieceTrace x = new PieceTrace();
         for (int i = 0; i < 39; i++) {
-            x.melt(1_000_000, 1);
+            x.melt(MOST, 1);
             x.scrap(i);
         }
         x.back(99, 1);
@@ -44,26 +100,36 @@ public final class Promise09BackTest {
         Check.due("the heap", x.told(1), 390_000);
     }
 
-    private static void refusals() {
-        int[] percents = {0, -1, 101, Integer.MIN_VALUE, Integer.MAX_VALUE};
-        for (int percent : percents) {
-            Check.refused("percent " + percent, Check.RANGE, Check::mixed, x -> x.back(percent, 1));
+    /** "or there are 40". */
+    private static void roomForOne() {
+        PieceTrace x = Check.filledTo(39);
+        x.scrap(0);
+        Check.due("the 40th piece", x.back(50, 5), 39);
+        Check.weightsAndLengths("the 40th piece", x, 39, 500, 5);
+        Check.refused("a 41st", Check.MEANING, Promise09BackTest::fullWithHeap, y -> y.back(50, 1));
+        Check.refused("no room, no heap", Check.MEANING, () -> Check.filledTo(40), y -> y.back(50, 1));
+    }
+
+    private static void rangeAheadOfMeaning() {
+        for (int percent : Check.outside(1, 100)) {
+            Check.refused("percent ahead of heap", Check.RANGE, PieceTrace::new, x -> x.back(percent, 1));
+            Check.refused("percent ahead of room", Check.RANGE, Promise09BackTest::fullWithHeap, x -> x.back(percent, 1));
         }
-        int[] lengths = {0, -1, 1_000_001, Integer.MIN_VALUE, Integer.MAX_VALUE};
-        for (int length : lengths) {
-            Check.refused("length " + length, Check.RANGE, Check::mixed, x -> x.back(50, length));
+        for (int length : Check.outside(1, MOST)) {
+            Check.refused("length ahead of heap", Check.RANGE, PieceTrace::new, x -> x.back(100, length));
+            Check.refused("length ahead of room", Check.RANGE, Promise09BackTest::fullWithHeap, x -> x.back(100, length));
         }
-        Check.refused("an empty heap", Check.MEANING, () -> Check.filledTo(1), x -> x.back(100, 1));
-        Check.refused("less than a gram", Check.MEANING, () -> heapOf(99), x -> x.back(1, 1));
-        Check.refused("range ahead of meaning", Check.RANGE, PieceTrace::new, x -> x.back(101, 1));
-        Check.refused("no room", Check.MEANING, Promise09BackTest::fullWithHeap, x -> x.back(50, 1));
-        Check.refused("range ahead of room", Check.RANGE, Promise09BackTest::fullWithHeap, x -> x.back(50, 0));
     }
 
     private static PieceTrace heapOf(int weight) {
-        PieceTrace x = new PieceTrace();
-        x.melt(weight, 10);
+        PieceTrace x = Check.oneMelt(weight, 10);
         x.scrap(0);
+        return x;
+    }
+
+    private static PieceTrace emptied() {
+        PieceTrace x = heapOf(5);
+        x.back(100, 1);
         return x;
     }
 

@@ -1,8 +1,11 @@
 /** Promise 15: told. */
 public final class Promise15ToldTest {
     public static void main(String[] args) {
+        anEmptyObject();
         ordinary();
-        refusals();
+        theLargestSums();
+        meltsFromTheHeapAreNotTold();
+        noSuchWhat();
         Check.end();
     }
 
@@ -38,15 +41,44 @@ public final class Promise15ToldTest {
         told(x, 2000, 0, 2000);
     }
 
+    private static void anEmptyObject() {
+        told(new PieceTrace(), 0, 0, 0);
+    }
+
+    /** 40 melts of 1,000,000 grams: the most there can be. */
+    private static void theLargestSums() {
+        PieceTrace x = new PieceTrace();
+        for (int i = 0; i < 40; i++) {
+            x.melt(1_000_000, 1);
+        }
+        told(x, 40_000_000, 0, 40_000_000);
+        for (int i = 0; i < 40; i++) {
+            x.scrap(i);
+        }
+        told(x, 0, 40_000_000, 40_000_000);
+    }
+
+    /** "2 of all melts, but those from the heap". */
+    private static void meltsFromTheHeapAreNotTold() {
+        PieceTrace x = Check.filledTo(1);
+        for (int i = 0; i < 5; i++) {
+            x.scrap(i);
+            x.back(100, 10);
+            told(x, 1000, 0, 1000);
+        }
+    }
+
+    /** "Index: no such what". */
+    private static void noSuchWhat() {
+        for (int what : Check.outside(0, 2)) {
+            Check.refused("no what " + what, Check.INDEX, Check::mixed, x -> x.told(what));
+            Check.refused("no what " + what, Check.INDEX, PieceTrace::new, x -> x.told(what));
+        }
+    }
+
     private static void told(PieceTrace x, long live, long heap, long melts) {
         Check.due("live", x.told(0), live);
         Check.due("heap", x.told(1), heap);
         Check.due("melts", x.told(2), melts);
-    }
-
-    private static void refusals() {
-        for (int what : new int[] {-1, 3, Integer.MIN_VALUE, Integer.MAX_VALUE}) {
-            Check.refused("no what " + what, Check.INDEX, Check::mixed, x -> x.told(what));
-        }
     }
 }
