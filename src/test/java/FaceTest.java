@@ -32,6 +32,7 @@ public final class FaceTest {
         constructors(face);
         methods(face);
         fields(face);
+        classesInside(face);
         Check.end();
     }
 
@@ -76,6 +77,16 @@ public final class FaceTest {
             Check.due(field.getName() + " is private", Modifier.isPrivate(field.getModifiers()), true);
             boolean loose = Modifier.isStatic(field.getModifiers()) && !Modifier.isFinal(field.getModifiers());
             Check.due(field.getName() + " is static and not final", loose, false);
+        }
+    }
+
+    /** Those are "private or package-visible and static". */
+    private static void classesInside(Class<?> face) {
+        for (Class<?> inside : face.getDeclaredClasses()) {
+            int modifiers = inside.getModifiers();
+            boolean seen = Modifier.isPublic(modifiers) || Modifier.isProtected(modifiers);
+            Check.due(inside.getName() + " is public or protected", seen, false);
+            Check.due(inside.getName() + " is static", Modifier.isStatic(modifiers), true);
         }
     }
 }
